@@ -1,0 +1,512 @@
+import java.util.ArrayDeque;
+import java.util.ArrayList;
+import java.util.Deque;
+import java.util.HashSet;
+import java.util.List;
+import java.util.Set;
+import java.util.regex.Matcher;
+import java.util.regex.Pattern;
+
+/** Promise 5 (fault), with 4 and 16: told texts, and many spoilt ones against a second reader with a stack of signs. */
+final class FaultTest {
+    private static final Pattern TOKEN = Pattern.compile("[a-z]+|[0-9]+|[^a-z0-9 \n]");
+    private static final Set<String> KEYS = Set.of("proc", "is", "end", "add", "sub", "xor", "swap", "if", "then", "else",
+        "fi", "from", "do", "loop", "until", "call", "uncall");
+
+    public static void main(String[] args) {
+        floors();
+        programs();
+        twice();
+        room();
+        latest();
+        int[] met = new int[6];
+        for (int seed = 0; seed < 30000; seed++) {
+            Check check = new Check(seed);
+            String text = check.coin() ? spoil(check, madeProgram(check)) : spoil(check, check.floorText(1 + check.below(8), check.below(8)));
+            compare(text, met);
+        }
+        for (int kind = 0; kind < 6; kind++) {
+            Check.due("made texts with fault " + kind + " are enough: " + met[kind], met[kind] > 20 ? 1 : 0, 1);
+        }
+        Check.finish("FaultTest");
+    }
+
+    private static void fault(boolean program, String text, int kind, int place) {
+        MarbleFloor x = new MarbleFloor();
+        int told = program ? Check.program(x, text) : Check.floor(x, 0, text);
+        Check.due(text, told, kind == 0 ? told : -1);
+        Check.due("no fault of " + text, told >= 0 ? 1 : 0, kind == 0 ? 1 : 0);
+        Check.due("fault(0) of " + text, x.fault(0), kind);
+        Check.due("fault(1) of " + text, x.fault(1), place);
+        Check.due("fault(2)", x.fault(2), -1);
+        Check.due("fault(-1)", x.fault(-1), -1);
+    }
+
+    private static void floor(String text, int kind, int place) {
+        fault(false, text, kind, place);
+    }
+
+    /** The fault stands at the sign |, which is left out. */
+    private static void program(String text, int kind) {
+        fault(true, text.replace("|", ""), kind, kind == 0 ? -1 : text.indexOf('|'));
+    }
+
+    private static void floors() {
+        floor("", 1, 0);
+        floor("  \n", 1, 3);
+        floor("lanes", 1, 5);
+        floor("lanes 3", 1, 7);
+        floor("lanes 3 ", 1, 8);
+        floor("lanes 3;", 0, -1);
+        floor("lanes3;", 0, -1);
+        floor("lanes 0;", 2, 6);
+        floor("lanes 9;", 2, 6);
+        floor("lanes 0003;", 0, -1);
+        floor("lanes 00003;", 1, 6);
+        floor("lane 3;", 1, 0);
+        floor("turn 3;", 1, 0);
+        floor("Lanes 3;", 1, 0);
+        floor("lanes\t3;", 1, 5);
+        floor("lanes 3;\u00e9", 1, 8);
+        floor("lanes 3; turn 0", 1, 15);
+        floor("lanes 3; turn 0; turn", 1, 21);
+        floor("lanes 3; turn 3;", 2, 14);
+        floor("lanes 3; turn 0 if 3;", 2, 19);
+        floor("lanes 3; turn 0 if 0;", 3, 19);
+        floor("lanes 3; turn 0 if 1 if 1;", 3, 24);
+        floor("lanes 3; turn 0 if 1 2;", 1, 21);
+        floor("lanes 3; turn 0 1;", 1, 16);
+        floor("lanes 3; swap 0;", 1, 15);
+        floor("lanes 3; swap 0 0;", 3, 16);
+        floor("lanes 3; swap 0 1 if 0;", 3, 21);
+        floor("lanes 3; swap 0 1 if 1;", 3, 21);
+        floor("lanes 3; swap 0 1 if 2;", 0, -1);
+        floor("lanes 3; swap 0 1 if 2 if 2;", 3, 26);
+        floor("lanes 1; turn 0 if 0;", 3, 19);
+        floor("lanes 3; swap if 1;", 1, 14);
+        floor("lanes 3; turnturnturn 1;", 1, 9);
+        floor("lanes 3; turn 1;;", 1, 16);
+        floor("lanes 8;" + "turn 0;".repeat(40), 0, -1);
+        floor("lanes 8;" + "turn 0;".repeat(40) + " swap 1 1", 4, 8 + 280 + 1);
+        floor("lanes 8;" + "turn 0;".repeat(40) + " lanes", 1, 8 + 280 + 1);
+        floor("lanes 2;turn 0;turn 1;+", 1, 22);
+    }
+
+    private static void programs() {
+        program("", 0);
+        program(" \n", 0);
+        program("proc|", 1);
+        program("proc |a is end;", 1);
+        program("proc |then is end;", 1);
+        program("proc |uncall is end;", 1);
+        program("proc |abcdefghi is end;", 1);
+        program("proc abcdefgh is end;", 0);
+        program("proc turn is end; proc lanes is end;", 0);
+        program("proc |12 is end;", 1);
+        program("proc aa |end;", 1);
+        program("proc aa is end|", 1);
+        program("proc aa is end; |add a 1;", 1);
+        program("proc aa is |proc", 1);
+        program("proc aa is add |i 1; end;", 1);
+        program("proc aa is add |1 1; end;", 1);
+        program("proc aa is add a|; end;", 1);
+        program("proc aa is add a |ab; end;", 1);
+        program("proc aa is add a |-1; end;", 1);
+        program("proc aa is add a 1|=1; end;", 1);
+        program("proc aa is add a 1 |2; end;", 1);
+        program("proc aa is add a (1|; end;", 1);
+        program("proc aa is add a 1|); end;", 1);
+        program("proc aa is add a (1+2)*(b&c/3%4-5); end;", 0);
+        program("proc aa is add a 9999; end;", 0);
+        program("proc aa is add a |10000; end;", 1);
+        program("proc aa is add z[9] 1; end;", 0);
+        program("proc aa is add z[|10] 1; end;", 2);
+        program("proc aa is add a z[|10]; end;", 2);
+        program("proc aa is add z[|z] 1; end;", 1);
+        program("proc aa is add z[|i] 1; end;", 1);
+        program("proc aa is add z[a|+1] 1; end;", 1);
+        program("proc aa is add z |a; end;", 1);
+        program("proc aa is swap a b|+1; end;", 1);
+        program("proc aa is swap a |1; end;", 1);
+        program("proc aa is if a=1 then else fi a=1; end;", 0);
+        program("proc aa is if a=1 then |fi a=1; end;", 1);
+        program("proc aa is if a=1 then add b 1|else fi a=1; end;", 1);
+        program("proc aa is if a |then else fi a=1; end;", 1);
+        program("proc aa is if (a|=1) then else fi a=1; end;", 1);
+        program("proc aa is if a=1 |do else fi a=1; end;", 1);
+        program("proc aa is if a=1|=", 1);
+        program("proc aa is from a=1 do loop until a=1; end;", 0);
+        program("proc aa is from a=1 do loop until a|; end;", 1);
+        program("proc aa is call |a; end;", 1);
+        program("proc aa is call |if; end;", 1);
+        program("proc aa is call |7; end;", 1);
+        program("proc aa is call aa; end;", 0);
+        program("proc aa is call bb; end; proc bb is end;", 0);
+        program("proc aa is call bb; end; proc cc is end;  |", 5);
+        program("proc aa is uncall bb; end;|", 5);
+        program("proc aa is uncall bb; end; |call", 1);
+        program("proc aa is uncall bb; end|", 1);
+        program("proc aa is end; proc |aa is", 3);
+        program("proc aa is end; |@", 1);
+    }
+
+    private static void twice() {
+        program("proc aa is add a |a; end;", 3);
+        program("proc aa is sub a b+|a; end;", 3);
+        program("proc aa is xor a b+(c*(|a)); end;", 3);
+        program("proc aa is add a z[|a]; end;", 3);
+        program("proc aa is add z[0] |z[1]; end;", 3);
+        program("proc aa is add z[a] |z", 3);
+        program("proc aa is add z[a] a; end;", 0);
+        program("proc aa is swap a |a; end;", 3);
+        program("proc aa is swap z[0] |z[1]; end;", 3);
+        program("proc aa is swap z[a] |a; end;", 3);
+        program("proc aa is swap a z[|a]; end;", 3);
+        program("proc aa is swap z[a] b; end;", 0);
+        program("proc aa is swap b z[a]; end;", 0);
+        program("proc aa is swap z[1] b; end;", 0);
+        program("proc aa is swap a b; add c a; add b c; if a=a then else fi b+b=b; end;", 0);
+        program("proc aa is swap z[a] b; add a b; swap a b; end;", 0);
+    }
+
+    private static void room() {
+        program("proc aa is " + "xor a 1;".repeat(60) + " end;", 0);
+        program("proc aa is " + "xor a 1;".repeat(60) + " |xor a a; end;", 4);
+        program("proc aa is " + "xor a 1;".repeat(30) + "end; proc bb is " + "xor a 1;".repeat(30) + "|call", 4);
+        program("proc aa is " + "xor a 1;".repeat(60) + " |proc", 1);
+        program("proc aa is end;proc ab is end;proc ac is end;proc ad is end;proc ae is end;proc af is end;", 0);
+        program("proc aa is end;proc ab is end;proc ac is end;proc ad is end;proc ae is end;proc af is end; |proc aa", 4);
+        program("proc aa is " + "if a=b then ".repeat(6) + "else fi a=b;".repeat(6) + " end;", 0);
+        program("proc aa is " + "if a=b then ".repeat(6) + "|if a=b then", 4);
+        program("proc aa is " + "if a=b then from a=b do ".repeat(3) + "|from a=b do", 4);
+        program("proc aa is " + "if a=b then ".repeat(5) + "if a=b then else fi a=b; from a=b do loop until |=b", 1);
+        program("proc aa is " + "if a=b then ".repeat(5) + "if a=b then else fi a=b; from a=b do loop |from", 4);
+        program("proc aa is add a ((((((1)))))) + ((((((2)))))); end;", 0);
+        program("proc aa is add a ((((((|(1", 4);
+        program("proc aa is add a 1" + "+1".repeat(11) + "; end;", 0);
+        program("proc aa is add a 1" + "+1".repeat(11) + "+|1; end;", 4);
+        program("proc aa is add a 1" + "+1".repeat(11) + "+|b; end;", 4);
+        program("proc aa is add a 1" + "+1".repeat(11) + "+|z[11]; end;", 4);
+        program("proc aa is add a 1" + "+1".repeat(11) + "+|a; end;", 3);
+        program("proc aa is add a 1" + "+1".repeat(11) + "+|i; end;", 1);
+        program("proc aa is add a 1" + "+1".repeat(11) + "+(|1); end;", 4);
+        program("proc aa is add a (1" + "+1".repeat(10) + ")+1+|1; end;", 4);
+        program("proc aa is add a z[1]" + "+z[b]".repeat(11) + "; end;", 0);
+        program("proc aa is add a z[1]" + "+z[b]".repeat(11) + "+|z[b]; end;", 4);
+        program("proc aa is if 1" + "+1".repeat(11) + "=1" + "+1".repeat(11) + " then else fi 1" + "+1".repeat(11) + "<2; end;", 0);
+        program("proc aa is if 1" + "+1".repeat(11) + "=1" + "+1".repeat(11) + "+|1", 4);
+    }
+
+    private static void latest() {
+        MarbleFloor x = new MarbleFloor();
+        Check.program(x, "proc aa is add a a;");
+        Check.due("program's", x.fault(0), 3);
+        Check.due("floor(6)", x.floor(6), -2);
+        Check.due("RANGE tells none", x.fault(0), 3);
+        Check.due("RANGE tells none", x.fault(1), 17);
+        Check.floor(x, 0, "lanes 9");
+        Check.due("floor's", x.fault(0), 2);
+        Check.program(x, "proc aa is end;");
+        Check.due("without", x.fault(0), 0);
+        Check.due("without", x.fault(1), -1);
+    }
+
+    private static String madeProgram(Check check) {
+        StringBuilder text = new StringBuilder();
+        String[] names = {"aa", "bb", "cc", "dd", "ee", "ff", "gg", "hh"};
+        int procs = check.below(10) == 0 ? 7 : 1 + check.below(3);
+        for (int p = 0; p < procs; p++) {
+            text.append("proc ").append(check.below(9) == 0 ? names[check.below(8)] : names[p]).append(" is ");
+            body(check, text, 0);
+            text.append("end;");
+        }
+        return text.toString();
+    }
+
+    private static void body(Check check, StringBuilder text, int deep) {
+        int steps = check.below(deep == 0 && check.below(8) == 0 ? 70 : 4);
+        for (int i = 0; i < steps && text.length() < 600; i++) {
+            int choice = check.below(steps > 10 ? 6 : 14);
+            if (choice < 3) {
+                text.append(check.coin() ? "add " : "xor ").append(var(check)).append(' ').append(sum(check, 0));
+            } else if (choice < 5) {
+                text.append("swap ").append(var(check)).append(' ').append(var(check));
+            } else if (choice < 6) {
+                text.append(check.coin() ? "call " : "uncall ").append("abcdef".charAt(check.below(3))).append("abc".charAt(check.below(3)));
+            } else if (deep < 9) {
+                boolean fork = check.coin();
+                text.append(fork ? "if " : "from ").append(test(check)).append(fork ? " then " : " do ");
+                body(check, text, deep + 1);
+                text.append(fork ? " else " : " loop ");
+                body(check, text, deep + 1);
+                text.append(fork ? " fi " : " until ").append(test(check));
+            } else {
+                text.append("sub a 1");
+            }
+            text.append(";");
+        }
+    }
+
+    private static String var(Check check) {
+        String letter = "" + "abcdefgh".charAt(check.below(8));
+        int choice = check.below(6);
+        return choice == 0 ? "z[" + letter + "]" : choice == 1 ? "z[" + check.below(11) + "]" : letter;
+    }
+
+    private static String test(Check check) {
+        return sum(check, 0) + "=<>!".charAt(check.below(4)) + sum(check, 0);
+    }
+
+    private static String sum(Check check, int deep) {
+        StringBuilder text = new StringBuilder();
+        int factors = check.below(25) == 0 ? 14 : 1 + check.below(3);
+        for (int i = 0; i < factors; i++) {
+            if (i > 0) {
+                text.append("+-*/%&".charAt(check.below(6)));
+            }
+            int choice = check.below(9);
+            if (choice == 0 && deep < 9) {
+                text.append("(").append(sum(check, deep + 1)).append(")");
+            } else if (choice == 1 && deep < 2) {
+                int open = 1 + check.below(7);
+                text.append("(".repeat(open)).append("1").append(")".repeat(open));
+            } else if (choice < 5) {
+                text.append(check.below(10000));
+            } else {
+                text.append(var(check));
+            }
+        }
+        return text.toString();
+    }
+
+    /** Some tokens are left out, told twice or turned into others; sometimes none. */
+    private static String spoil(Check check, String text) {
+        List<String> tokens = new ArrayList<>();
+        Matcher m = TOKEN.matcher(text);
+        while (m.find()) {
+            tokens.add(m.group());
+        }
+        String[] others = {"if", "turn", "swap", "proc", "aa", "z", "a", ";", "(", ")", "[", "]", "=", "0", "8", "99999",
+            "lanes", "abcdefghi", "?", "end", "else", "until", "+", "\u0080", "call", "qq"};
+        for (int n = check.below(3); n > 0 && !tokens.isEmpty(); n--) {
+            int at = check.below(tokens.size());
+            switch (check.below(4)) {
+                case 0: tokens.remove(at); break;
+                case 1: tokens.add(at, tokens.get(at)); break;
+                case 2: tokens.set(at, others[check.below(others.length)]); break;
+                default:
+                    if (check.below(3) == 0) {
+                        tokens = new ArrayList<>(tokens.subList(0, at));
+                    }
+                    break;
+            }
+        }
+        StringBuilder spoilt = new StringBuilder();
+        for (String token : tokens) {
+            boolean glued = spoilt.length() > 0 && isWordy(token) && isWordy(spoilt.substring(spoilt.length() - 1))
+                && Character.isDigit(token.charAt(0)) == Character.isDigit(spoilt.charAt(spoilt.length() - 1));
+            spoilt.append(glued || check.below(4) == 0 ? check.coin() ? " " : "\n " : "").append(token);
+        }
+        return spoilt.substring(0, Math.min(spoilt.length(), 900));
+    }
+
+    private static boolean isWordy(String token) {
+        char c = token.charAt(0);
+        return c >= 'a' && c <= 'z' || c >= '0' && c <= '9';
+    }
+
+    private static void compare(String text, int[] met) {
+        boolean program = !text.stripLeading().startsWith("lanes");
+        int[] due = new Second(text).read(program);
+        met[due[0]]++;
+        MarbleFloor x = new MarbleFloor();
+        int told = program ? Check.program(x, text) : Check.floor(x, 0, text);
+        Check.due("no fault of " + text, told >= 0 ? 1 : 0, due[0] == 0 ? 1 : 0);
+        Check.due("fault(0) of " + text, x.fault(0), due[0]);
+        Check.due("fault(1) of " + text, x.fault(1), due[1]);
+    }
+
+    /** A second reader: what may come is a stack of signs; a sign's first letter tells what is asked of its token. */
+    private static final class Second {
+        private final String text;
+        private final Deque<String> stack = new ArrayDeque<>();
+        private final Set<String> names = new HashSet<>();
+        private final Set<String> called = new HashSet<>();
+        private final Set<Integer> lanesTaken = new HashSet<>();
+        private int lanes;
+        private int steps;
+        private int open;
+        private int brackets;
+        private int atoms;
+        private String changed = "";
+        private String first = "";
+        private String firstPlace = "";
+
+        Second(String text) {
+            this.text = text;
+        }
+
+        int[] read(boolean program) {
+            push(program ? "PROCS $" : "lanes #lanes ; STEPS $");
+            int at = 0;
+            while (true) {
+                while (at < text.length() && (text.charAt(at) == ' ' || text.charAt(at) == '\n')) {
+                    at++;
+                }
+                Matcher m = TOKEN.matcher(text);
+                String token = m.find(at) ? m.group() : "$";
+                int place = token.equals("$") ? text.length() : at;
+                int fault = take(token);
+                if (fault != 0) {
+                    return new int[] {fault, place};
+                }
+                if (token.equals("$")) {
+                    return called.isEmpty() || names.containsAll(called) ? new int[] {0, -1} : new int[] {5, place};
+                }
+                at += token.length();
+            }
+        }
+
+        private void push(String signs) {
+            String[] all = signs.split(" ");
+            for (int i = all.length - 1; i >= 0; i--) {
+                if (!all[i].isEmpty()) {
+                    stack.push(all[i]);
+                }
+            }
+        }
+
+        private int take(String token) {
+            if (token.matches("[a-z]{9,}|[0-9]{5,}")) {
+                return 1;
+            }
+            while (true) {
+                String sign = stack.pop();
+                if (sign.startsWith("@")) {
+                    act(sign);
+                } else if (sign.matches("[A-Z]+")) {
+                    String next = expand(sign, token);
+                    if (next == null) {
+                        return 1;
+                    }
+                    push(next);
+                } else {
+                    return match(sign, token);
+                }
+            }
+        }
+
+        private void act(String sign) {
+            switch (sign) {
+                case "@sum": atoms = 0; break;
+                case "@free": changed = ""; break;
+                case "@close": open--; break;
+                case "@shut": brackets--; break;
+                default: lanesTaken.clear(); break;
+            }
+        }
+
+        private static boolean isNumber(String token) {
+            return token.matches("[0-9]+");
+        }
+
+        private String expand(String sign, String token) {
+            boolean var = token.matches("[a-hz]");
+            switch (sign) {
+                case "STEPS":
+                    return token.equals("turn") ? "!turn #lane IFS ; @lanes STEPS"
+                        : token.equals("swap") ? "!swap #lane #lane IFS ; @lanes STEPS" : "";
+                case "IFS": return token.equals("if") ? "if #lane IFS" : "";
+                case "PROCS": return token.equals("proc") ? "~proc %name is BODY end ; PROCS" : "";
+                case "BODY": return token.matches("add|sub|xor|swap|if|from|call|uncall") ? "STEP ; BODY" : "";
+                case "STEP":
+                    switch (token) {
+                        case "swap": return "!swap FIRST SECOND";
+                        case "if": return "!if TEST then BODY else BODY fi TEST @close";
+                        case "from": return "!from TEST do BODY loop BODY until TEST @close";
+                        case "call": return "!call %called";
+                        case "uncall": return "!uncall %called";
+                        default: return "!" + token + " CHANGED @sum SUM @free";
+                    }
+                case "CHANGED": return !var ? null : token.equals("z") ? "=changed [ =cplace ]" : "=changed";
+                case "FIRST": return !var ? null : token.equals("z") ? "=first [ =fplace ]" : "=first";
+                case "SECOND": return !var ? null : token.equals("z") ? "=second [ =splace ]" : "=second";
+                case "TEST": return "@sum SUM =rel @sum SUM";
+                case "SUM": return "FACTOR REST";
+                case "REST": return token.matches("[-+*/%&]") ? token + " FACTOR REST" : "";
+                default:
+                    return token.equals("(") ? "( SUM ) @shut" : isNumber(token) ? "=atom"
+                        : !var ? null : token.equals("z") ? "=atom [ =aplace ]" : "=atom";
+            }
+        }
+
+        private int match(String sign, String token) {
+            String name = sign.length() > 1 ? sign.substring(1) : sign;
+            if (sign.equals("#lanes")) {
+                lanes = isNumber(token) ? Integer.parseInt(token) : 0;
+                return !isNumber(token) ? 1 : lanes < 1 || lanes > 8 ? 2 : 0;
+            }
+            if (sign.equals("#lane")) {
+                return !isNumber(token) ? 1 : Integer.parseInt(token) >= lanes ? 2 : lanesTaken.add(Integer.parseInt(token)) ? 0 : 3;
+            }
+            if (sign.startsWith("%") && sign.length() > 1) {
+                if (!token.matches("[a-z]{2,8}") || KEYS.contains(token)) {
+                    return 1;
+                }
+                return name.equals("called") ? called.add(token) ? 0 : 0 : names.add(token) ? 0 : 3;
+            }
+            if (sign.startsWith("!") && sign.length() > 1) {
+                return step(token);
+            }
+            if (sign.equals("~proc")) {
+                return names.size() == 6 ? 4 : 0;
+            }
+            if (sign.startsWith("=") && sign.length() > 1) {
+                return value(name, token);
+            }
+            if (sign.equals("(")) {
+                return ++brackets > 6 ? 4 : 0;
+            }
+            return sign.equals(token) ? 0 : 1;
+        }
+
+        private int step(String token) {
+            steps++;
+            if (lanes > 0) {
+                return steps > 40 ? 4 : 0;
+            }
+            open += token.equals("if") || token.equals("from") ? 1 : 0;
+            return steps > 60 || open > 6 ? 4 : 0;
+        }
+
+        private int value(String name, String token) {
+            if (name.endsWith("place")) {
+                if (isNumber(token)) {
+                    firstPlace = name.equals("fplace") ? "" : firstPlace;
+                    return Integer.parseInt(token) > 9 ? 2 : 0;
+                }
+                if (!token.matches("[a-h]")) {
+                    return 1;
+                }
+                firstPlace = name.equals("fplace") ? token : firstPlace;
+                return name.equals("aplace") && token.equals(changed) || name.equals("splace") && token.equals(first) ? 3 : 0;
+            }
+            switch (name) {
+                case "rel":
+                    return token.matches("[=<>!]") ? 0 : 1;
+                case "changed":
+                    changed = token;
+                    return 0;
+                case "first":
+                    first = token;
+                    firstPlace = "";
+                    return 0;
+                case "second":
+                    return token.equals(first) || token.equals(firstPlace) ? 3 : 0;
+                default:
+                    atoms++;
+                    return token.equals(changed) ? 3 : atoms > 12 ? 4 : 0;
+            }
+        }
+    }
+}

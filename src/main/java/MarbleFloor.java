@@ -373,14 +373,20 @@ public final class MarbleFloor {
             0x656c7365L /* else */, 0x6669L /* fi */, 0x646fL /* do */, 0x6c6f6f70L /* loop */,
             0x756e74696cL /* until */, 0x6c616e6573L /* lanes */, 0x7475726eL /* turn */};
 
+        // One TOKEN more than there are bytes: the text's end.
+        private static final int MOST_TOKENS = MOST_BYTES + 1;
+
         private final int[] bytes = new int[MOST_BYTES];
+        private final int[] kinds = new int[MOST_TOKENS];
+        private final int[] keys = new int[MOST_TOKENS];
+        private final int[] places = new int[MOST_TOKENS];
+        // A WORD's letters, or an N.
+        private final long[] contents = new long[MOST_TOKENS];
         private int length;
+        private int tokens;
         private int at;
         private int kind;
         private int key;
-        private int number;
-        private long word;
-        private int place;
         private int faultKind;
         private int faultPlace = NONE;
 
@@ -431,59 +437,78 @@ public final class MarbleFloor {
         }
 
         void begin() {
+            scan();
             at = 0;
+            kind = kinds[0];
+            key = keys[0];
             faultKind = 0;
             faultPlace = NONE;
-            advance();
         }
 
         /** Behind a FAULT no TOKEN is read any more, so that every reader's loop ends. */
         void advance() {
-            if (faultKind != 0) {
-                return;
-            }
-            while (at < length && (bytes[at] == ' ' || bytes[at] == '\n')) {
+            if (faultKind == 0 && at < tokens - 1) {
                 at++;
-            }
-            place = at;
-            key = NONE;
-            if (at >= length) {
-                kind = ENDED;
-            } else if (isSmall(bytes[at])) {
-                takeWord();
-            } else if (isDigit(bytes[at])) {
-                takeNumber();
-            } else {
-                kind = isSign(bytes[at]) ? bytes[at] : BAD;
-                at++;
+                kind = kinds[at];
+                key = keys[at];
             }
         }
 
-        private void takeWord() {
-            word = 0;
-            while (at < length && isSmall(bytes[at])) {
-                word = word << 8 | bytes[at];
-                at++;
-            }
-            if (at - place > LONGEST_WORD) {
-                kind = BAD;
-                return;
-            }
-            kind = WORD;
-            for (int k = 0; k < WORDS.length; k++) {
-                if (WORDS[k] == word) {
-                    key = k;
+        private void scan() {
+            tokens = 0;
+            int i = 0;
+            while (i < length) {
+                int c = bytes[i];
+                if (c == ' ' || c == '\n') {
+                    i++;
+                } else if (isSmall(c)) {
+                    i = scanWord(i);
+                } else if (isDigit(c)) {
+                    i = scanNumber(i);
+                } else {
+                    addToken(isSign(c) ? c : BAD, i, 0);
+                    i++;
                 }
             }
+            addToken(ENDED, length, 0);
         }
 
-        private void takeNumber() {
-            number = 0;
-            while (at < length && isDigit(bytes[at])) {
-                number = number * 10 + bytes[at] - '0';
-                at++;
+        private int scanWord(int from) {
+            long word = 0;
+            int i = from;
+            while (i < length && isSmall(bytes[i])) {
+                word = word << 8 | bytes[i];
+                i++;
             }
-            kind = at - place > LONGEST_NUMBER ? BAD : NUMBER;
+            addToken(i - from > LONGEST_WORD ? BAD : WORD, from, word);
+            return i;
+        }
+
+        private int scanNumber(int from) {
+            long number = 0;
+            int i = from;
+            while (i < length && isDigit(bytes[i])) {
+                number = number * 10 + bytes[i] - '0';
+                i++;
+            }
+            addToken(i - from > LONGEST_NUMBER ? BAD : NUMBER, from, number);
+            return i;
+        }
+
+        private void addToken(int newKind, int from, long content) {
+            if (tokens >= MOST_TOKENS) {
+                return;
+            }
+            kinds[tokens] = newKind;
+            keys[tokens] = NONE;
+            places[tokens] = from;
+            contents[tokens] = content;
+            for (int k = 0; k < WORDS.length && newKind == WORD; k++) {
+                if (WORDS[k] == content) {
+                    keys[tokens] = k;
+                }
+            }
+            tokens++;
         }
 
         private static boolean isSmall(int c) {
@@ -508,7 +533,7 @@ public final class MarbleFloor {
         void fail(int why) {
             if (faultKind == 0) {
                 faultKind = why;
-                faultPlace = place;
+                faultPlace = places[at];
             }
             kind = BAD;
             key = NONE;
@@ -526,24 +551,19 @@ public final class MarbleFloor {
             return key;
         }
 
+        /** What the TOKEN tells, if it is an N. */
         int number() {
-            return number;
+            return (int) contents[at];
         }
 
+        /** The TOKEN's letters, if it is a WORD. */
         long word() {
-            return word;
-        }
-
-        boolean seesKey(int wanted) {
-            return key == wanted;
-        }
-
-        boolean seesSign(int wanted) {
-            return kind == wanted;
+            return contents[at];
         }
 
         /** 0 .. 7 for a .. h, Z for z, NONE for any other TOKEN. */
         int letter() {
+            long word = contents[at];
             if (kind != WORD) {
                 return NONE;
             }
@@ -555,7 +575,7 @@ public final class MarbleFloor {
 
         /** Whether the TOKEN is a WORD that a proc may bear. */
         boolean seesName() {
-            return kind == WORD && word > 255 && (key < 0 || key > KEY_UNTIL);
+            return kind == WORD && contents[at] > 255 && (key < 0 || key > KEY_UNTIL);
         }
 
         void wantKey(int wanted) {
@@ -566,7 +586,7 @@ public final class MarbleFloor {
             }
         }
 
-        void wantSign(int wanted) {
+        void wantKind(int wanted) {
             if (kind == wanted) {
                 advance();
             } else {
@@ -574,23 +594,25 @@ public final class MarbleFloor {
             }
         }
 
-        void wantEnded() {
-            if (kind != ENDED) {
+        void wantName() {
+            if (seesName()) {
+                advance();
+            } else {
                 fail(SYNTAX);
             }
         }
 
         /** An N within its bounds; what is told behind a FAULT is the low bound. */
         int wantNumber(int low, int high) {
+            int told = (int) contents[at];
             if (kind != NUMBER) {
                 fail(SYNTAX);
                 return low;
             }
-            if (number < low || number > high) {
+            if (told < low || told > high) {
                 fail(OUT_OF_BOUNDS);
                 return low;
             }
-            int told = number;
             advance();
             return told;
         }
@@ -758,17 +780,13 @@ public final class MarbleFloor {
             tape.begin();
             tape.wantKey(KEY_LANES);
             floor.clear(tape.wantNumber(1, MOST_LANES));
-            tape.wantSign(';');
-            for (int n = 0; n <= MOST_STEPS && seesStep(); n++) {
+            tape.wantKind(';');
+            for (int n = 0; n <= MOST_STEPS && (tape.key() == KEY_TURN || tape.key() == KEY_SWAP); n++) {
                 readStep(floor);
-                tape.wantSign(';');
+                tape.wantKind(';');
             }
-            tape.wantEnded();
+            tape.wantKind(Tape.ENDED);
             return !tape.failed();
-        }
-
-        private boolean seesStep() {
-            return tape.seesKey(KEY_TURN) || tape.seesKey(KEY_SWAP);
         }
 
         private void readStep(Floor floor) {
@@ -776,7 +794,7 @@ public final class MarbleFloor {
                 tape.fail(ROOM);
                 return;
             }
-            boolean swap = tape.seesKey(KEY_SWAP);
+            boolean swap = tape.key() == KEY_SWAP;
             tape.advance();
             int first = readLane(floor, 0);
             int taken = 1 << first;
@@ -798,7 +816,7 @@ public final class MarbleFloor {
 
         private int readIfs(Floor floor, int taken) {
             int held = 0;
-            for (int n = 0; n <= MOST_LANES && tape.seesKey(KEY_IF); n++) {
+            for (int n = 0; n <= MOST_LANES && tape.key() == KEY_IF; n++) {
                 tape.advance();
                 held |= 1 << readLane(floor, taken | held);
             }
@@ -1283,10 +1301,14 @@ public final class MarbleFloor {
         }
     }
 
-    /** Reads a PROGRAM's text. */
+    /** Reads a PROGRAM's text. What is open is kept in rows, so that no method calls itself. */
     private static final class ProgramReader {
         private final Tape tape;
+        private final int[] openSteps = new int[MOST_OPEN];
+        // The sign that waits for its second FACTOR, for each open bracket and outside of all.
+        private final int[] waiting = new int[MOST_OPEN + 1];
         private Program program;
+        private int body;
         private int open;
         private int brackets;
         private int atoms;
@@ -1301,61 +1323,53 @@ public final class MarbleFloor {
         boolean readInto(Program into) {
             program = into;
             program.clear();
+            body = NONE;
             open = 0;
-            brackets = 0;
             barred = 0;
             tape.begin();
-            for (int n = 0; n <= MOST_PROCS && tape.seesKey(KEY_PROC); n++) {
-                readProc();
+            for (int n = 0; n <= Tape.MOST_BYTES && tape.kind() != Tape.ENDED && !tape.failed(); n++) {
+                if (body == NONE) {
+                    readHead();
+                } else if (tape.key() >= KEY_ADD && tape.key() <= KEY_UNCALL) {
+                    readStep();
+                } else if (open > 0) {
+                    endBody();
+                } else {
+                    readTail();
+                }
             }
-            tape.wantEnded();
+            if (body != NONE) {
+                tape.fail(SYNTAX);
+            }
             if (!tape.failed() && !program.findCalled()) {
                 tape.fail(UNKNOWN);
             }
             return !tape.failed();
         }
 
-        private void readProc() {
-            if (program.procs() >= MOST_PROCS) {
+        private void readHead() {
+            if (tape.key() == KEY_PROC && program.procs() >= MOST_PROCS) {
                 tape.fail(ROOM);
-                return;
             }
-            tape.advance();
+            tape.wantKey(KEY_PROC);
             long name = tape.word();
             if (tape.seesName() && program.procNamed(name) != NONE) {
                 tape.fail(TWICE);
             }
-            wantName();
-            if (tape.failed()) {
-                return;
-            }
-            int body = program.addProc(name);
+            tape.wantName();
             tape.wantKey(KEY_IS);
-            readBody(body);
+            if (!tape.failed()) {
+                body = program.addProc(name);
+            }
+        }
+
+        private void readTail() {
             tape.wantKey(KEY_END);
-            tape.wantSign(';');
+            tape.wantKind(';');
+            body = NONE;
         }
 
-        private void wantName() {
-            if (tape.seesName()) {
-                tape.advance();
-            } else {
-                tape.fail(SYNTAX);
-            }
-        }
-
-        private boolean seesStep() {
-            return tape.key() >= KEY_ADD && tape.key() <= KEY_UNCALL;
-        }
-
-        private void readBody(int body) {
-            for (int n = 0; n <= MOST_PROGRAM_STEPS && seesStep(); n++) {
-                readStep(body);
-                tape.wantSign(';');
-            }
-        }
-
-        private void readStep(int body) {
+        private void readStep() {
             int kind = tape.key();
             boolean opens = kind == KEY_IF || kind == KEY_FROM;
             if (program.steps() >= MOST_PROGRAM_STEPS || opens && open >= MOST_OPEN) {
@@ -1366,15 +1380,17 @@ public final class MarbleFloor {
             tape.advance();
             switch (kind) {
                 case KEY_IF:
-                    readForked(step, KEY_THEN, KEY_ELSE, KEY_FI);
-                    break;
                 case KEY_FROM:
-                    readForked(step, KEY_DO, KEY_LOOP, KEY_UNTIL);
-                    break;
+                    readTest(step, 0);
+                    tape.wantKey(kind == KEY_IF ? KEY_THEN : KEY_DO);
+                    openSteps[open] = step;
+                    open++;
+                    body = 2 * step;
+                    return;
                 case KEY_CALL:
                 case KEY_UNCALL:
                     program.setCalled(step, tape.word());
-                    wantName();
+                    tape.wantName();
                     break;
                 case KEY_SWAP:
                     readSwap(step);
@@ -1383,19 +1399,23 @@ public final class MarbleFloor {
                     readChange(step);
                     break;
             }
+            tape.wantKind(';');
         }
 
-        /** if and from have the same shape: TEST, a WORD, BODY, a WORD, BODY, a WORD, TEST. */
-        private void readForked(int step, int first, int second, int third) {
-            open++;
-            readTest(step, 0);
-            tape.wantKey(first);
-            readBody(2 * step);
-            tape.wantKey(second);
-            readBody(2 * step + 1);
-            tape.wantKey(third);
+        /** The first BODY of if or from goes over into the second one, or that one into what is behind it. */
+        private void endBody() {
+            int step = openSteps[open - 1];
+            boolean fork = program.kindOf(step) == KEY_IF;
+            if (body == 2 * step) {
+                tape.wantKey(fork ? KEY_ELSE : KEY_LOOP);
+                body = 2 * step + 1;
+                return;
+            }
+            tape.wantKey(fork ? KEY_FI : KEY_UNTIL);
             readTest(step, 1);
+            tape.wantKind(';');
             open--;
+            body = program.bodyOf(step);
         }
 
         private void readSwap(int step) {
@@ -1414,123 +1434,135 @@ public final class MarbleFloor {
             program.setVars(step, left, left);
             barred = left >= FIRST_PLACE ? 1 << Z : 1 << left;
             program.beginSum(step, 0);
-            readWholeSum();
+            readSum();
             program.endSum(step, 0);
             barred = 0;
         }
 
         private void readTest(int step, int which) {
             program.beginSum(step, which);
-            readWholeSum();
+            readSum();
             int sign = tape.kind();
             if (sign == '=' || sign == '<' || sign == '>' || sign == '!') {
                 tape.advance();
             } else {
                 tape.fail(SYNTAX);
             }
-            readWholeSum();
+            readSum();
             program.addCode(-sign);
             program.endSum(step, which);
         }
 
-        private void readWholeSum() {
-            atoms = 0;
-            readSum();
-        }
-
-        /** Codes stand behind what they work on, so that a run needs no brackets. */
+        /** A sign's code stands behind those of both FACTORS, so that a run needs no brackets. */
         private void readSum() {
-            readFactor();
-            for (int n = 0; n <= MOST_ATOMS && seesWork(); n++) {
-                int sign = tape.kind();
-                tape.advance();
-                readFactor();
-                program.addCode(-sign);
-            }
-        }
-
-        private boolean seesWork() {
-            switch (tape.kind()) {
-                case '+': case '-': case '*': case '/': case '%': case '&':
-                    return true;
-                default:
-                    return false;
-            }
-        }
-
-        private void readFactor() {
-            if (tape.seesSign('(')) {
-                readBracket();
-            } else if (tape.kind() == Tape.NUMBER) {
-                int number = tape.number();
-                takeAtom();
-                tape.advance();
-                program.addCode(number);
-            } else {
-                refuseBarred();
-                if (tape.letter() != NONE) {
-                    takeAtom();
+            atoms = 0;
+            brackets = 0;
+            waiting[0] = 0;
+            boolean more = true;
+            for (int n = 0; n <= Tape.MOST_BYTES && more; n++) {
+                if (tape.kind() == '(') {
+                    openBracket();
+                } else {
+                    countAtom();
+                    if (tape.kind() == Tape.NUMBER) {
+                        program.addCode(tape.number());
+                        tape.advance();
+                    } else {
+                        program.addCode(Program.FIRST_VAR + readVar());
+                    }
+                    more = endFactor();
                 }
-                program.addCode(Program.FIRST_VAR + readVar());
             }
         }
 
-        private void readBracket() {
+        private void openBracket() {
             if (brackets >= MOST_OPEN) {
                 tape.fail(ROOM);
                 return;
             }
             brackets++;
+            waiting[brackets] = 0;
             tape.advance();
-            readSum();
-            tape.wantSign(')');
-            brackets--;
         }
 
-        private void takeAtom() {
-            if (atoms >= MOST_ATOMS) {
+        /** A letter that is TWICE is told by readVar, ahead of ROOM. */
+        private void countAtom() {
+            int letter = tape.letter();
+            boolean fine = tape.kind() == Tape.NUMBER || letter != NONE && (barred >> letter & 1) == 0;
+            if (fine && atoms >= MOST_ATOMS) {
                 tape.fail(ROOM);
             }
             atoms++;
         }
 
-        private void refuseBarred() {
-            int letter = tape.letter();
-            if (letter != NONE && (barred >> letter & 1) != 0) {
-                tape.fail(TWICE);
+        /** true if a sign behind the FACTOR asks for another one. */
+        private boolean endFactor() {
+            doWaiting();
+            while (brackets > 0 && tape.kind() == ')') {
+                tape.advance();
+                brackets--;
+                doWaiting();
+            }
+            switch (tape.kind()) {
+                case '+': case '-': case '*': case '/': case '%': case '&':
+                    waiting[brackets] = tape.kind();
+                    tape.advance();
+                    return true;
+                default:
+                    break;
+            }
+            if (brackets > 0) {
+                tape.fail(SYNTAX);
+            }
+            return false;
+        }
+
+        private void doWaiting() {
+            if (waiting[brackets] != 0) {
+                program.addCode(-waiting[brackets]);
+                waiting[brackets] = 0;
             }
         }
 
         /** 0 .. 7 a .. h, 10 .. 19 a told place of z, 20 .. 27 a place of z by a letter; 0 with a FAULT. */
         private int readVar() {
-            refuseBarred();
             int letter = tape.letter();
             if (letter == NONE) {
                 tape.fail(SYNTAX);
+                return 0;
+            }
+            if ((barred >> letter & 1) != 0) {
+                tape.fail(TWICE);
                 return 0;
             }
             tape.advance();
             if (letter != Z) {
                 return letter;
             }
-            tape.wantSign('[');
+            tape.wantKind('[');
             int place = readPlace();
-            tape.wantSign(']');
+            tape.wantKind(']');
             return place;
         }
 
         private int readPlace() {
-            if (tape.kind() == Tape.NUMBER) {
-                return FIRST_PLACE + tape.wantNumber(0, PLACES - 1);
-            }
             int letter = tape.letter();
-            if (letter == NONE || letter == Z) {
+            int number = tape.number();
+            boolean isNumber = tape.kind() == Tape.NUMBER;
+            if (!isNumber && (letter == NONE || letter == Z)) {
                 tape.fail(SYNTAX);
                 return 0;
             }
-            refuseBarred();
+            if (isNumber && number >= PLACES) {
+                tape.fail(OUT_OF_BOUNDS);
+                return 0;
+            }
+            if (!isNumber && (barred >> letter & 1) != 0) {
+                tape.fail(TWICE);
+                return 0;
+            }
             tape.advance();
-            return VALUES + letter;
+            return isNumber ? FIRST_PLACE + number : VALUES + letter;
         }
     }
 

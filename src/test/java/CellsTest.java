@@ -146,6 +146,21 @@ final class CellsTest {
         Check.due("undoable stays", x.count(2), 7);
         Check.due("the same from elsewhere", x.round(), 140);
         Check.due("undoable stays", x.count(2), 7);
+        x.table(6, 3);
+        x.part(1, 0, 1);
+        int[][] last = {{3, 2, 2}, {3, 2, 3}, {4, 0, 0}, {1, 2, 0}};
+        for (int[] b : last) {
+            x.ball(b[0], b[1], b[2], true);
+        }
+        Check.due("the last that is told", x.round(), 2000);
+        x.table(7, 5);
+        x.part(0, 1, 1);
+        int[][] beyond = {{2, 1, 3}, {5, 1, 0}, {1, 1, 2}, {6, 4, 2}};
+        for (int[] b : beyond) {
+            x.ball(b[0], b[1], b[2], true);
+        }
+        Check.due("2002 is beyond", x.round(), -1);
+        Check.due("balls as ahead", x.cell(2, 1), 8);
     }
 
     private void against(Check check) {

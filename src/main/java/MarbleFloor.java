@@ -935,8 +935,8 @@ public final class MarbleFloor {
 
     /**
      * LEAST. A TABLE of three lanes is held as three bytes, one a lane: which ROWS in bring a ball out on it.
-     * All TABLES near to the one without STEPS are kept with how many STEPS they need (the ball), and a search
-     * in the order of the STEPS' numbers goes from the asked one till it comes upon the ball's rim.
+     * All TABLES near to the one without STEPS are kept with how many STEPS they need (the near ones), and a search
+     * in the order of the STEPS' numbers goes from the asked one till it comes upon their rim.
      */
     private static final class Shortest {
         static final int LANES = 3;
@@ -949,16 +949,16 @@ public final class MarbleFloor {
             0, 2, 4, 6, 8, 9, 12, 13, 16, 17, 18, 19, 72, 76, 80, 82, 112, 113};
         // Kinds that don't make all 40320 TABLES make 5040 at most: beyond that every TABLE can be had.
         private static final int ENOUGH = 5040;
-        private static final int BALL_ROOM = 16384;
+        private static final int NEAR_ROOM = 16384;
         private static final int SLOTS = 32768;
         private static final int DEEPEST = 12;
 
         private final int[] usable = new int[STEPS.length];
         private final int[] picked = new int[MOST_STEPS];
         private int[] slots = new int[0];
-        private int[] ball = new int[0];
+        private int[] near = new int[0];
         private int usables;
-        private int ballKinds = NONE;
+        private int nearKinds = NONE;
         private int size;
         private int rim;
         private int radius;
@@ -970,12 +970,12 @@ public final class MarbleFloor {
 
         /** false if no row of STEPS of these kinds has the TABLE. */
         boolean find(Floor floor, int kinds, Floor into) {
-            if (kinds != ballKinds) {
-                beginBall(kinds);
+            if (kinds != nearKinds) {
+                beginNear(kinds);
             }
             reached = undoing(floor);
             for (int n = 0; n < MOST_STEPS && distance(reached) < 0 && !whole && size <= ENOUGH; n++) {
-                growBall();
+                growNear();
             }
             int ahead = 0;
             if (distance(reached) < 0) {
@@ -1036,15 +1036,15 @@ public final class MarbleFloor {
             return (step < SWAPS ? 0 : 3) + Integer.bitCount(step & 7);
         }
 
-        private void beginBall(int kinds) {
+        private void beginNear(int kinds) {
             if (slots.length == 0) {
                 // Made at the first call alone: most objects are never asked for LEAST.
                 slots = new int[SLOTS];
-                ball = new int[BALL_ROOM];
+                near = new int[NEAR_ROOM];
             } else {
                 Arrays.fill(slots, 0);
             }
-            ballKinds = kinds;
+            nearKinds = kinds;
             usables = 0;
             for (int i = 0; i < STEPS.length; i++) {
                 if ((kinds >> kindOf(STEPS[i]) & 1) != 0) {
@@ -1059,14 +1059,14 @@ public final class MarbleFloor {
             keep(UNTURNED);
         }
 
-        private void growBall() {
+        private void growNear() {
             int from = rim;
             int to = size;
             rim = size;
             radius++;
             for (int i = from; i < to; i++) {
                 for (int u = 0; u < usables; u++) {
-                    keep(pass(usable[u], ball[i]));
+                    keep(pass(usable[u], near[i]));
                 }
             }
             whole = size == to;
@@ -1075,9 +1075,9 @@ public final class MarbleFloor {
         /** A slot holds a TABLE in its low 24 bits and its distance above; no TABLE is 0. */
         private void keep(int table) {
             int slot = slotOf(table);
-            if (slots[slot] == 0 && size < ball.length) {
+            if (slots[slot] == 0 && size < near.length) {
                 slots[slot] = radius << 24 | table;
-                ball[size] = table;
+                near[size] = table;
                 size++;
             }
         }
@@ -1121,7 +1121,7 @@ public final class MarbleFloor {
             return false;
         }
 
-        /** Within the ball each STEP is the least that comes one nearer; tells how many there are in all. */
+        /** Among the near ones each STEP is the least that comes one nearer; tells how many there are in all. */
         private int walkHome(int ahead) {
             int at = ahead;
             for (int left = distance(reached); left > 0 && at < picked.length; left--) {

@@ -5,10 +5,16 @@ final class Check {
     private static final int SHOWN = 20;
     private static int wrong = 0;
     private static int right = 0;
+    private static String context = "";
     private long seed;
 
     Check(long seed) {
         this.seed = seed;
+    }
+
+    /** What the next answers belong to; it is told with each wrong one. */
+    static void within(String what) {
+        context = what + ": ";
     }
 
     static void due(String call, long got, long want) {
@@ -18,7 +24,7 @@ final class Check {
         }
         wrong++;
         if (wrong <= SHOWN) {
-            System.out.println(call + " answered " + got + ", due is " + want);
+            System.out.println(context + call + " answered " + got + ", due is " + want);
         }
     }
 
@@ -29,7 +35,7 @@ final class Check {
         }
         wrong++;
         if (wrong <= SHOWN) {
-            System.out.println(what + " is " + got + ", due is " + want);
+            System.out.println(context + what + " is " + got + ", due is " + want);
         }
     }
 

@@ -457,7 +457,7 @@ public final class MarbleFloor {
         private void scan() {
             tokens = 0;
             int i = 0;
-            while (i < length) {
+            for (int n = 0; n < MOST_BYTES && i < length; n++) {
                 int c = bytes[i];
                 if (c == ' ' || c == '\n') {
                     i++;
@@ -2074,11 +2074,12 @@ public final class MarbleFloor {
             far[goal] = 0;
             queue[0] = goal;
             int size = 1;
-            for (int i = 0; i < size && far[0] == NONE; i++) {
+            for (int i = 0; i < STATES && i < size && far[0] == NONE; i++) {
                 int full = queue[i];
                 for (int place = 0; place < n; place++) {
                     int next = full ^ 1 << place;
-                    if (mayChange(full, place) && far[next] == NONE && Integer.bitCount(next) <= k) {
+                    boolean fresh = far[next] == NONE && size < STATES;
+                    if (fresh && mayChange(full, place) && Integer.bitCount(next) <= k) {
                         far[next] = far[full] + 1;
                         queue[size] = next;
                         size++;

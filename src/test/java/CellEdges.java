@@ -452,6 +452,21 @@ final class CellEdges {
         Check.due("2000", x.round(), 2000);
         x.beat(500);
         Check.due("2000 from elsewhere", x.round(), 2000);
+        x = table(7, 10);
+        x.part(2, 5, 2);
+        x.part(1, 3, 1);
+        int[][] first = {{4, 3, 0}, {1, 0, 3}, {5, 0, 3}, {5, 6, 1}};
+        for (int[] b : first) {
+            x.ball(b[0], b[1], b[2], true);
+        }
+        Check.due("2001", x.round(), NONE);
+        for (int n = 0; n < 4; n++) {
+            x.beat(500);
+        }
+        x.beat(1);
+        for (int[] b : first) {
+            Check.due("behind 2001 they are as they were", x.cell(b[0], b[1]), 1 << b[2]);
+        }
         x = table(7, 5);
         x.part(0, 1, 1);
         int[][] beyond = {{2, 1, 3}, {5, 1, 0}, {1, 1, 2}, {6, 4, 2}};

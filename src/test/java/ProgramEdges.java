@@ -30,6 +30,8 @@ final class ProgramEdges {
         longAheadOfDeep();
         runCall();
         troubleCall();
+        manyTexts();
+        behindSpoiltTexts();
     }
 
     private static MarbleFloor with(String text) {
@@ -518,5 +520,48 @@ final class ProgramEdges {
         Check.due("trouble(1) ahead of any", x.trouble(1), 0);
         x.run(0, true);
         Check.due("trouble(1) behind RANGE alone", x.trouble(1), 0);
+    }
+
+    /** One object reads texts one behind the other: none leaves anything of it to the next. */
+    private static void manyTexts() {
+        Check.within("the 40th text is read as the first one");
+        MarbleFloor x = new MarbleFloor();
+        for (int n = 1; n <= 40; n++) {
+            String sum = n + "+1*2-3+(4*(5-6))+7+8+9+10";
+            String body = "add a " + sum + "; sub b " + sum + "; if a=" + sum + " then xor c " + sum + "; else fi 1=1; call bb;";
+            Check.due("program", Check.program(x, "proc aa is " + body + "end; proc bb is swap a d; end;"), 2);
+            x.let(A, 0);
+            x.let(B, 0);
+            x.let(C, 0);
+            x.let(D, 77);
+            run(x, false, 0, 6);
+            int want = (n + 1) * 2 - 3 - 4 + 7 + 8 + 9 + 10;
+            Check.due("a", x.value(A), 77);
+            Check.due("b", x.value(B), -want);
+            Check.due("c", x.value(C), want);
+            Check.due("d", x.value(D), want);
+        }
+    }
+
+    private static void behindSpoiltTexts() {
+        Check.within("a spoilt text leaves nothing to the next one");
+        String text = "proc aa is add a 9-(2+(3*z[b]-1)); swap z[c] d; if a<(1+d) then from 1=1 do call bb; loop sub e (7-(1+2));"
+            + " until 1=1; else uncall bb; fi a<(1+d); end; proc bb is xor f 5-(1+2); end;";
+        MarbleFloor x = new MarbleFloor();
+        for (int end = 1; end < text.length() - 1; end++) {
+            Check.due("spoilt", Check.program(x, text.substring(0, end) + "?"), NONE);
+            Check.due("its PLACE is no later", x.fault(1) <= end ? 1 : 0, 1);
+            Check.due("program", Check.program(x, text), 2);
+            for (int v = 0; v < 8; v++) {
+                x.let(v, 0);
+            }
+            x.let(10, 4);
+            run(x, false, 0, 6);
+            int[] due = {9 - (2 + (3 * 4 - 1)), 0, 0, 4, 0, 2};
+            for (int v = 0; v < due.length; v++) {
+                Check.due("value(" + v + ")", x.value(v), due[v]);
+            }
+            Check.due("z[0]", x.value(10), 0);
+        }
     }
 }

@@ -152,6 +152,15 @@ final class TapeEdges {
         Check.due("the 900th byte", x.program(), NONE);
         Check.due("its PLACE", x.fault(1), 899);
 
+        for (int i = 0; i < SIGNS.length(); i++) {
+            String all = SIGNS.substring(i, i + 1).repeat(900);
+            Check.due("900 TOKENS", Check.floor(x, 0, all), NONE);
+            Check.due("900 TOKENS", Check.program(x, all), NONE);
+            Check.due("the first is wrong", x.fault(1), 0);
+        }
+        Check.due("899 bytes of a WORD", Check.program(x, "proc " + "a".repeat(895)), NONE);
+        Check.due("its PLACE", x.fault(1), 5);
+
         Doc.terms("each call that reads it empties it, whatever it tells.");
         String[] floors = {"lanes 2;", "lanes", "lanes 9;", ""};
         for (String text : floors) {

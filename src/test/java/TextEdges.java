@@ -602,6 +602,13 @@ final class TextEdges {
             Check.due("floor", Check.floor(x, 5, text), NONE);
             Check.dueText("it stays", Check.show(x, 5), "lanes 3; turn 2; swap 0 2 if 1;");
         }
+        String text = "lanes 4; turn 3 if 1 if 0; swap 0 2 if 3; turn 2; swap 3 1;";
+        for (int end = 0; end < text.length(); end++) {
+            Check.due("floor", Check.floor(x, 5, text.substring(0, end) + "?"), NONE);
+            Check.dueText("it stays", Check.show(x, 5), "lanes 3; turn 2; swap 0 2 if 1;");
+            Check.due("the next one is read as ever", Check.floor(x, 4, text), 4);
+            Check.dueText("the next one", Check.show(x, 4), "lanes 4; turn 3 if 0 if 1; swap 0 2 if 3; turn 2; swap 3 1;");
+        }
         Check.due("floor", Check.floor(x, 5, "lanes 1;"), 0);
         Check.dueText("it goes", Check.show(x, 5), "lanes 1;");
     }

@@ -6,10 +6,28 @@ final class Check {
     private static int wrong = 0;
     private static int right = 0;
     private static String context = "";
+    private static final long LONGEST_MILLIS = 600_000;
     private long seed;
+
+    static {
+        // A call that doesn't end is a wrong answer, too; no test needs a tenth of this time.
+        Thread watch = new Thread(Check::endLate);
+        watch.setDaemon(true);
+        watch.start();
+    }
 
     Check(long seed) {
         this.seed = seed;
+    }
+
+    private static void endLate() {
+        try {
+            Thread.sleep(LONGEST_MILLIS);
+        } catch (InterruptedException e) {
+            return;
+        }
+        System.out.println(context + "a call does not end");
+        Runtime.getRuntime().halt(1);
     }
 
     /** What the next answers belong to; it is told with each wrong one. */

@@ -952,9 +952,14 @@ public final class MarbleFloor {
         private static final int NEAR_ROOM = 16384;
         private static final int SLOTS = 32768;
         private static final int DEEPEST = 12;
+        // No TABLE and no set of kinds needs a tenth of this.
+        private static final int MOST_TRIES = 1000000;
 
         private final int[] usable = new int[STEPS.length];
         private final int[] picked = new int[MOST_STEPS];
+        // For each picked STEP how many usable ones were tried there, and the TABLE behind those picked ahead of it.
+        private final int[] tried = new int[DEEPEST + 1];
+        private final int[] behindPicked = new int[DEEPEST + 1];
         private int[] slots = new int[0];
         private int[] near = new int[0];
         private int usables;
@@ -1098,24 +1103,31 @@ public final class MarbleFloor {
 
         /** How many STEPS lead from the asked TABLE to the rim; the first found are the least. */
         private int stepsToRim() {
-            int start = reached;
+            behindPicked[0] = reached;
             for (int deep = 1; deep <= DEEPEST; deep++) {
-                if (reachRim(start, 0, deep)) {
+                if (reachRim(deep)) {
                     return deep;
                 }
             }
             return NONE;
         }
 
-        private boolean reachRim(int table, int at, int deep) {
-            if (at >= deep) {
-                reached = table;
-                return distance(table) == radius;
-            }
-            for (int u = 0; u < usables; u++) {
-                picked[at] = usable[u];
-                if (reachRim(pass(usable[u], table), at + 1, deep)) {
+        /** Goes through the rows of so many STEPS in their order, up to the first one that leads to the rim. */
+        private boolean reachRim(int deep) {
+            int at = 0;
+            tried[0] = 0;
+            for (int n = 0; n < MOST_TRIES && at >= 0; n++) {
+                if (at < deep && tried[at] < usables) {
+                    picked[at] = usable[tried[at]];
+                    tried[at]++;
+                    behindPicked[at + 1] = pass(picked[at], behindPicked[at]);
+                    at++;
+                    tried[at] = 0;
+                } else if (at == deep && distance(behindPicked[at]) == radius) {
+                    reached = behindPicked[at];
                     return true;
+                } else {
+                    at--;
                 }
             }
             return false;

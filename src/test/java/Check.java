@@ -3,6 +3,8 @@ import java.nio.charset.StandardCharsets;
 /** What all tests share: comparing answers, feeding texts, and numbers that look random but are always the same. */
 final class Check {
     private static final int SHOWN = 20;
+    // So many wrong answers tell enough; a class that is this wrong may also be too slow to wait for.
+    private static final int ENOUGH = 1000;
     private static int wrong = 0;
     private static int right = 0;
     private static String context = "";
@@ -40,10 +42,7 @@ final class Check {
             right++;
             return;
         }
-        wrong++;
-        if (wrong <= SHOWN) {
-            System.out.println(context + call + " answered " + got + ", due is " + want);
-        }
+        isWrong(call + " answered " + got + ", due is " + want);
     }
 
     static void dueText(String what, String got, String want) {
@@ -51,9 +50,17 @@ final class Check {
             right++;
             return;
         }
+        isWrong(what + " is " + got + ", due is " + want);
+    }
+
+    private static void isWrong(String told) {
         wrong++;
         if (wrong <= SHOWN) {
-            System.out.println(context + what + " is " + got + ", due is " + want);
+            System.out.println(context + told);
+        }
+        if (wrong == ENOUGH) {
+            System.out.println(context + wrong + " answers are wrong, the others are not looked at");
+            System.exit(1);
         }
     }
 
